@@ -863,7 +863,7 @@ public final class InodeDisk {
         }
     }
 
-    /** Where a path leads. It is made once and used again, so that calls leave no objects behind. */
+    /** Where a path leads. It is made once and used again, so that calls make no objects. */
     private static final class Place {
         /** The directory of the last name, or 0 if the part before it leads to none. */
         int parent;

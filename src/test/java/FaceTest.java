@@ -54,7 +54,8 @@ final class FaceTest {
     }
 
     private static String signature(Method method) {
-        StringBuilder text = new StringBuilder(method.getReturnType() + " " + method.getName() + "(");
+        StringBuilder text = new StringBuilder();
+        text.append(method.getReturnType()).append(" ").append(method.getName()).append("(");
         Class<?>[] parameters = method.getParameterTypes();
         for (int i = 0; i < parameters.length; i++) {
             text.append(i == 0 ? "" : ",").append(parameters[i]);

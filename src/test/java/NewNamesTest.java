@@ -24,7 +24,7 @@ final class NewNamesTest {
                 bytes 48 7 -> 2 2 40 0 9 10 0
                 bytes 320 16 -> 4 97 98 99 100 101 102 103 0 0 0 0 0 0 0 0
                 """);
-        Run.due("the lowest inode and the lowest free slot are taken", Rows.files("", 'a', 5, 2) + """
+        Run.due("the lowest inode and free slot are taken", Rows.files("", 'a', 5, 2) + """
                 unlink /d -> 0
                 unlink /b -> 0
                 create /x -> 3

@@ -1,5 +1,5 @@
 import java.util.List;
-import java.util.NoSuchElementException;
+import java.util.function.Supplier;
 
 /** A new object on which calls are made that are told as texts. */
 final class Played {
@@ -18,17 +18,15 @@ final class Played {
      * true", and types its paths before, if it tells any. The answer as a text.
      */
     String answer(String call) {
-        String[] words = call.trim().split(" +");
+        return told(() -> answer(call.trim().split(" +")));
+    }
+
+    /** What a call answers or throws, as a text. */
+    static String told(Supplier<?> call) {
         try {
-            return answer(words);
-        } catch (IllegalStateException e) {
-            return "throws.IllegalStateException";
-        } catch (NoSuchElementException e) {
-            return "throws.NoSuchElementException";
-        } catch (UnsupportedOperationException e) {
-            return "throws.UnsupportedOperationException";
-        } catch (IllegalArgumentException e) {
-            return "throws.IllegalArgumentException";
+            return "" + call.get();
+        } catch (RuntimeException e) {
+            return "throws." + e.getClass().getSimpleName();
         }
     }
 
