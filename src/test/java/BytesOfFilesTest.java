@@ -88,8 +88,24 @@ final class BytesOfFilesTest {
                 write /f 1209 8 1 -> throws.IllegalArgumentException
                 write /f 2147483647 8 1 -> throws.IllegalArgumentException
                 write /f 0 -2147483648 1 -> throws.IllegalArgumentException
+                write /f 0 2147483647 1 -> throws.IllegalArgumentException
+                write /f 2147483647 2147483647 1 -> throws.IllegalArgumentException
+                write /f -2147483648 -2147483648 1 -> throws.IllegalArgumentException
+                write /f 2147483647 1 1 -> throws.IllegalArgumentException
+                write /f 1217 -1 1 -> throws.IllegalArgumentException
+                write /f 1216 0 1 -> throws.IllegalArgumentException
+                stat /f 3 -> 0
+                stat /f 4 -> 0
                 write /f 1208 8 1 -> 1216
                 """);
+        StringBuilder ends = new StringBuilder("create /f -> 2\n");
+        for (int n = 1; n <= 8; n++) {
+            ends.append("write /f " + (1217 - n) + " " + n + " -1 -> " + Rows.ARGUMENT);
+            ends.append("write /f " + (1216 - n) + " " + n + " -1 -> 1216\n");
+            ends.append("write /f 0 " + n + " -1 -> 1216\n");
+            ends.append("write /f -1 " + n + " -1 -> " + Rows.ARGUMENT);
+        }
+        Run.due("each n, up to 1216 and no further", ends + "stat /f 4 -> 3\n");
         Run.due("no file", """
                 makeDirectory /d -> 2
                 write /d 0 1 1 -> throws.UnsupportedOperationException
@@ -109,6 +125,26 @@ final class BytesOfFilesTest {
                 write /b 448 1 1 -> throws.IllegalStateException
                 write /b 0 8 1 -> 420
                 write /b 440 8 5 -> 448
+                """);
+        String threeLeft = "create /a -> 2\ncreate /b -> 3\ncreate /c -> 4\n" + Rows.fill("/a", 38)
+                + Rows.fill("/b", 10) + "count 1 -> 3\n";
+        Run.due("two pages and the indirect block, three blocks", threeLeft + """
+                write /c 188 8 -1 -> 196
+                count 1 -> 0
+                bytes 96 16 -> 1 1 196 0 0 0 0 0 0 61 62 0 0 0 0 0
+                bytes 1984 2 -> 63 0
+                bytes 2016 5 -> 255 255 255 255 0
+                """);
+        Run.due("two pages and the indirect block, two blocks", threeLeft + """
+                write /b 320 1 1 -> 321
+                count 1 -> 2
+                write /c 188 8 -1 -> throws.IllegalStateException
+                stat /c 3 -> 0
+                stat /c 4 -> 0
+                write /c 188 4 -1 -> 192
+                write /c 192 4 -1 -> throws.IllegalStateException
+                write /c 188 8 -1 -> throws.IllegalStateException
+                read /c 188 -> 4294967295
                 """);
         Run.due("a page and the indirect block, one block", """
                 create /a -> 2
@@ -147,6 +183,35 @@ final class BytesOfFilesTest {
                 read /f 1216 -> 0
                 read /f 100000 -> 0
                 read /f 2147483647 -> 0
+                """);
+        Run.due("the end of the longest file", """
+                create /f -> 2
+                write /f 1208 8 72623859790382856 -> 1216
+                read /f 1207 -> 144964032628459520
+                read /f 1208 -> 72623859790382856
+                read /f 1209 -> 283686952306183
+                read /f 1215 -> 1
+                read /f 1216 -> 0
+                read /f 1217 -> 0
+                """);
+        Run.due("from the last direct page into the first one of the indirect block", """
+                create /f -> 2
+                write /f 188 8 72623859790382856 -> 196
+                read /f 187 -> 144964032628459520
+                read /f 188 -> 72623859790382856
+                read /f 192 -> 16909060
+                read /f 195 -> 1
+                read /f 196 -> 0
+                """);
+        Run.due("a file of size 0, and one that ends in a hole", """
+                create /f -> 2
+                read /f 0 -> 0
+                read /f 1 -> 0
+                truncate /f 5 -> 0
+                read /f 0 -> 0
+                read /f 4 -> 0
+                read /f 5 -> 0
+                stat /f 4 -> 0
                 """);
         Run.due("a negative long", """
                 create /f -> 2
@@ -196,6 +261,58 @@ final class BytesOfFilesTest {
                 bytes 348 8 -> 255 255 0 0 255 255 255 255
                 truncate /f 0 -> 30
                 bytes 348 8 -> 255 255 0 0 255 255 255 255
+                """);
+        Run.due("sizes round each end of a page", """
+                create /f -> 2
+                """ + Rows.fill("/f", 4) + """
+                truncate /f 97 -> 100
+                stat /f 4 -> 4
+                truncate /f 96 -> 97
+                stat /f 4 -> 3
+                truncate /f 95 -> 96
+                stat /f 4 -> 3
+                truncate /f 65 -> 95
+                stat /f 4 -> 3
+                truncate /f 64 -> 65
+                stat /f 4 -> 2
+                truncate /f 64 -> 64
+                stat /f 4 -> 2
+                read /f 60 -> 0
+                read /f 32 -> 4294967295
+                """);
+        Run.due("a size of 0 and the largest one", """
+                create /f -> 2
+                truncate /f 0 -> 0
+                truncate /f 1216 -> 0
+                bytes 66 2 -> 192 4
+                truncate /f 1215 -> 1216
+                truncate /f 255 -> 1215
+                bytes 66 2 -> 255 0
+                truncate /f 256 -> 255
+                bytes 66 2 -> 0 1
+                write /f 255 1 3 -> 256
+                truncate /f 0 -> 256
+                stat /f 3 -> 0
+                stat /f 4 -> 0
+                count 1 -> 54
+                """);
+        Run.due("the longest file becomes empty", "create /f -> 2\n" + Rows.fill("/f", 38) + """
+                truncate /f 1216 -> 1188
+                stat /f 4 -> 39
+                truncate /f 1184 -> 1216
+                stat /f 4 -> 38
+                truncate /f 0 -> 1184
+                stat /f 4 -> 0
+                count 1 -> 54
+                bytes 64 16 -> 1 1 0 0 0 0 0 0 0 0 0 0 0 0 0 0
+                """ + "bytes 512 32 -> " + Rows.zeros(32));
+        Run.due("no links and names change", """
+                create /f -> 2
+                link /f /g -> 2
+                write /f 0 8 -1 -> 8
+                truncate /g 1 -> 8
+                read /f 0 -> 255
+                stat /f 2 -> 2
                 """);
         Run.due("a file becomes longer", """
                 create /f -> 2

@@ -1,3 +1,4 @@
+import java.util.ArrayList;
 import java.util.Arrays;
 import java.util.List;
 
@@ -40,6 +41,16 @@ final class FormatTest {
                 "makeDirectory /d", "create /d/e", "spoil 1 40 0", "format");
         Run.same("format leaves the root alone",
                 Arrays.equals(Played.image(calls), fresh()), true);
+        List<String> full = new ArrayList<>();
+        for (String row : Rows.twoFiles(14).split("\n")) {
+            full.add(row.split("->")[0].strip());
+        }
+        full.addAll(List.of("write /b 440 8 -1", "spoil 2 1 255"));
+        Run.same("the last byte before", Played.image(full)[2047], 255);
+        full.add("format");
+        Run.same("format of a full disk", Arrays.equals(Played.image(full), fresh()), true);
+        Run.same("format twice", Arrays.equals(Played.image(List.of("format", "format")), fresh()),
+                true);
         Run.due("format makes the disk clean", """
                 create /a -> 2
                 spoil 0 2 0 -> true
@@ -89,6 +100,7 @@ final class FormatTest {
                 count 3 -> -1
                 count -1 -> -1
                 count 2147483647 -> -1
+                count -2147483648 -> -1
                 create /a -> 2
                 count 0 -> 13
                 count 1 -> 54
@@ -100,6 +112,35 @@ final class FormatTest {
                 spoil 1 9 0 -> true
                 count 1 -> 54
                 count 2 -> 0
+                """);
+        Run.due("no inode is left", Rows.files("", 'a', 13, 2) + """
+                count 0 -> 1
+                create /n -> 15
+                count 0 -> 0
+                spoil 0 2 0 -> true
+                count 0 -> 1
+                """);
+        Run.due("no block is left", Rows.twoFiles(12) + """
+                count 1 -> 2
+                write /b 412 8 -1 -> 420
+                count 1 -> 0
+                spoil 1 63 0 -> true
+                count 1 -> 1
+                """);
+        StringBuilder all = new StringBuilder();
+        for (int i = 2; i < 16; i++) {
+            all.append("spoil 0 " + i + " 0 -> true\n");
+        }
+        for (int i = 10; i < 64; i++) {
+            all.append("spoil 1 " + i + " 0 -> true\n");
+        }
+        Run.due("count goes by the maps, not by the tree", all + """
+                count 0 -> 0
+                count 1 -> 0
+                spoil 0 1 0 -> true
+                count 0 -> 1
+                spoil 1 9 0 -> true
+                count 1 -> 1
                 """);
     }
 }

@@ -46,6 +46,21 @@ final class GoingTest {
                 count 1 -> 53
                 count 0 -> 14
                 """);
+        Run.due("a file without blocks goes", """
+                create /f -> 2
+                truncate /f 1216 -> 0
+                unlink /f -> 0
+                count 0 -> 14
+                count 1 -> 54
+                """ + "bytes 64 16 -> " + Rows.zeros(16));
+        Run.due("the slot in the middle and the last slot go", Rows.files("", 'a', 3, 2) + """
+                unlink /b -> 0
+                stat / 3 -> 40
+                """ + "bytes 312 8 -> " + Rows.zeros(8) + """
+                unlink /c -> 0
+                stat / 3 -> 40
+                stat / 4 -> 2
+                """ + "bytes 320 8 -> " + Rows.zeros(8));
     }
 
     private static void unlinkRefused() {
@@ -199,6 +214,34 @@ final class GoingTest {
                 rename /d/e/f /d/x -> 4
                 rename /d/e /d/x/y -> 3
                 """);
+        StringBuilder deep = new StringBuilder();
+        String path = "";
+        for (int level = 2; level <= 15; level++) {
+            path += "/d";
+            deep.append("makeDirectory " + path + " -> " + level + "\n");
+        }
+        Run.due("at any depth", deep + "rename /d " + path + "/x -> " + Rows.ARGUMENT
+                + "rename /d/d " + path + "/x -> " + Rows.ARGUMENT
+                + "rename " + path + " /x -> 15\nrename /d /x/y -> 2\nstat /x/y/d 0 -> 3\n");
+        Run.due("where A lies goes by the tree, not by the letters", """
+                makeDirectory /d -> 2
+                makeDirectory /de -> 3
+                makeDirectory /e -> 4
+                rename /e /de/d -> 4
+                rename /d /de/d/d -> 2
+                rename /de /de/x -> throws.IllegalArgumentException
+                rename /de /de/d/d/x -> throws.IllegalArgumentException
+                rename /de/d/d /d -> 2
+                rename /de /d/de -> 3
+                stat /d/de/d 0 -> 4
+                """);
+        Run.due("a file is no directory: it may go deeper", """
+                makeDirectory /d -> 2
+                create /f -> 3
+                rename /f /d/f -> 3
+                rename /d/f /d/g -> 3
+                rename /d/g /g -> 3
+                """);
         Run.due("the name is there", """
                 create /a -> 2
                 create /b -> 3
@@ -212,6 +255,23 @@ final class GoingTest {
     }
 
     private static void renameWithoutRoom() {
+        Run.due("24 slots in another directory", "makeDirectory /d -> 2\ncreate /d/a -> 3\n"
+                + Rows.names("/d/a", "/d", 'b', 21) + """
+                makeDirectory /e -> 4
+                rename /e /d/x -> throws.IllegalStateException
+                unlink /d/c -> 21
+                rename /e /d/x -> 4
+                stat /d 3 -> 192
+                stat /d 2 -> 3
+                stat / 2 -> 3
+                """);
+        Run.due("the new slot takes the last block", Rows.twoFiles(12) + """
+                write /b 384 1 1 -> 385
+                count 1 -> 1
+                rename /a /c -> 2
+                count 1 -> 0
+                rename /c /a -> 2
+                """);
         Run.due("24 slots", Rows.files("", 'a', 13, 2) + Rows.names("/a", "", 'n', 8) + """
                 rename /b /x -> 3
                 link /a /b -> 10

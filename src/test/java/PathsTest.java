@@ -3,7 +3,8 @@ final class PathsTest {
     private static final String FORTY = "/aaaaaaa/bbbbbbb/ccccccc/ddddddd/eeeeeee";
     private static final String[] NO_PATHS = {"a", "a/b", "/A", "/Z", "/a/", "//", "//a", "/a//b",
         "/abcdefgh", "/d/abcdefgh", "/.", "/..", "/d/.", "/d/..", "/d/../d", "/`", "/{", "/d/a1",
-        "/d/", "/\u0161", "/\u00e9", "/\0", "/d\0"};
+        "/d/", "/\u0161", "/\u00e9", "/\0", "/d\0", "/\u0161/a", "\u012fa", "/d\u012fa", "/\uffff",
+        "\\a", " /a", "/a ", "/d/@", "///", "/d/a/", "/d//a", "/" + "a".repeat(39)};
 
     public static void main(String[] args) {
         typing();
@@ -23,6 +24,14 @@ final class PathsTest {
                 type 65535 -> 3
                 type 97 -> 4
                 keep -> 4
+                """);
+        Run.due("the 39th, the 40th and the 41st character", "text "
+                + "a".repeat(39) + " -> 39\n" + """
+                type 97 -> 40
+                type 97 -> -1
+                type 97 -> -1
+                stat 0 -> throws.NoSuchElementException
+                type 97 -> 1
                 """);
         Run.due("40 characters at most", "text " + "/".repeat(40) + " -> 40\n" + """
                 type 97 -> -1
@@ -83,6 +92,11 @@ final class PathsTest {
                 + "create " + FORTY + " -> 6\nstat " + FORTY + " 0 -> 6\n");
         Run.due("the 41st character is not in the path", directories
                 + "text " + FORTY + "/ -> -1\ncreate -> 6\nstat " + FORTY + " 0 -> 6\n");
+        Run.due("a path B of 40 characters", directories + "create /f -> 6\nrename /f " + FORTY
+                + " -> 6\nlink " + FORTY + " /g -> 2\nrename " + FORTY + " /h -> 6\n");
+        Run.due("a character that had no place is not in the next path", directories
+                + "text " + FORTY + "zz -> -1\nkeep -> 40\ntext /g -> 2\n"
+                + "rename -> throws.NoSuchElementException\ncreate /g -> 6\n");
         StringBuilder deep = new StringBuilder();
         String path = "";
         for (int level = 2; level <= 13; level++) {
@@ -101,13 +115,15 @@ final class PathsTest {
                 "removeDirectory", "write 0 1 1", "read 0", "truncate 0"}) {
                 rows.append(typed(path) + call + " -> throws.NoSuchElementException\n");
             }
+            Run.due("no path A " + path, rows.toString());
+            rows = new StringBuilder(there);
             for (String call : new String[] {"link", "rename"}) {
                 rows.append(typed(path) + "keep -> " + path.length() + "\ntext /n -> 2\n" + call
                         + " -> throws.NoSuchElementException\n");
                 rows.append("text /a -> 2\nkeep -> 2\n" + typed(path) + call
                         + " -> throws.NoSuchElementException\n");
             }
-            Run.due("no path " + path, rows.toString());
+            Run.due("no path A or B " + path, rows.toString());
         }
     }
 
@@ -140,6 +156,32 @@ final class PathsTest {
                 makeDirectory / -> throws.NoSuchElementException
                 unlink /f -> 0
                 stat /f 0 -> throws.NoSuchElementException
+                """);
+        Run.due("a name is the whole name, of one letter to seven", """
+                create /abcdefg -> 2
+                stat /abcdef 0 -> throws.NoSuchElementException
+                stat /bcdefg 0 -> throws.NoSuchElementException
+                create /abcdef -> 3
+                create /a -> 4
+                create /z -> 5
+                stat /abcdefg 0 -> 2
+                stat /abcdef 0 -> 3
+                stat /a 0 -> 4
+                stat /z 0 -> 5
+                unlink /abcdef -> 0
+                stat /abcdefg 0 -> 2
+                """);
+        Run.due("a free slot leads nowhere, whatever its name was", """
+                makeDirectory /d -> 2
+                create /d/f -> 3
+                rename /d/f /d/g -> 3
+                stat /d/f 0 -> throws.NoSuchElementException
+                unlink /d/g -> 0
+                stat /d/g 0 -> throws.NoSuchElementException
+                removeDirectory /d -> 1
+                stat /d 0 -> throws.NoSuchElementException
+                stat /d/g 0 -> throws.NoSuchElementException
+                create /d/g -> throws.NoSuchElementException
                 """);
     }
 

@@ -1,3 +1,4 @@
+import java.util.ArrayDeque;
 import java.util.ArrayList;
 import java.util.Arrays;
 import java.util.List;
@@ -41,6 +42,8 @@ final class RandomRunsTest {
     private final Model model = new Model();
     private final Played played = new Played();
     private final List<String> calls = new ArrayList<>();
+    private final Paths typed = new Paths();
+    private final ArrayDeque<String> plan = new ArrayDeque<>();
     private final List<String> paths = new ArrayList<>();
     private final int taste;
 
@@ -62,6 +65,8 @@ final class RandomRunsTest {
         for (String call : PATH_CALLS) {
             Run.same("runs come to " + call + " on a disk that isn't clean",
                     seen.contains(call + " IllegalStateException, not clean"), true);
+            Run.same("runs come to " + call + " of paths that calls before it left",
+                    seen.contains(call + " done, of paths left"), true);
         }
         Run.end();
     }
@@ -70,7 +75,8 @@ final class RandomRunsTest {
         while (played.calls() < CALLS) {
             String call = draw();
             boolean wasClean = model.count(2) == 1;
-            String want = Played.told(() -> modelCall(call.split(" ")));
+            String want = Played.told(() -> modelCall(call));
+            typed.take(call);
             String got = played.answer(call);
             calls.add(call);
             if (!got.equals(want)) {
@@ -78,7 +84,11 @@ final class RandomRunsTest {
                 return;
             }
             String ending = got.startsWith("throws.") ? got.substring("throws.".length()) : "done";
-            seen.add(call.split(" ")[0] + " " + ending + (wasClean ? "" : ", not clean"));
+            String method = call.split(" ")[0];
+            seen.add(method + " " + ending + (wasClean ? "" : ", not clean"));
+            if (!call.contains("/")) {
+                seen.add(method + " " + ending + ", of paths left");
+            }
         }
         int[] image = Played.image(calls);
         Run.same("run " + seed + ": the disk behind " + calls,
@@ -88,6 +98,12 @@ final class RandomRunsTest {
 
     private String draw() {
         int kind = random.nextInt(100);
+        if (plan.isEmpty() && random.nextInt(15) == 0) {
+            plan();
+        }
+        if (!plan.isEmpty() && random.nextInt(4) > 0) {
+            return plan.remove();
+        }
         if (model.count(2) == 0 && kind < 50) {
             return "check " + (kind < 40);
         }
@@ -126,6 +142,35 @@ final class RandomRunsTest {
             return "count " + (random.nextInt(5) - 1);
         }
         return "format";
+    }
+
+    /** Draws calls that leave paths for later ones, with whatever is drawn between them. */
+    private void plan() {
+        String method = PATH_CALLS[random.nextInt(PATH_CALLS.length)];
+        boolean takesB = method.equals("link") || method.equals("rename");
+        if (takesB || random.nextInt(4) == 0) {
+            plan.add("text " + path());
+            plan.add("keep");
+        }
+        plan.add("text " + (takesB ? remember(newPath()) : path()));
+        if (random.nextInt(6) == 0) {
+            plan.add("type " + (random.nextBoolean() ? (int) '/' : 'a' + random.nextInt(3)));
+        }
+        plan.add(withNumbers(method));
+    }
+
+    private String withNumbers(String method) {
+        switch (method) {
+            case "write":
+                return "write " + offset() + " 8 " + random.nextLong();
+            case "read":
+            case "truncate":
+                return method + " " + offset();
+            case "stat":
+                return "stat " + random.nextInt(5);
+            default:
+                return method;
+        }
     }
 
     /** A call that makes the disk fuller, as the run's taste is. */
@@ -172,41 +217,52 @@ final class RandomRunsTest {
         return path;
     }
 
-    private Object modelCall(String[] words) {
+    private Object modelCall(String call) {
+        typed.typeFor(call);
+        String[] words = call.replaceAll(" /\\S*", "").split(" ");
         switch (words[0]) {
             case "format":
                 model.format();
                 return "done";
+            case "type":
+                return typed.type((char) number(words, 1));
+            case "text":
+                return typed.text(call.substring("text ".length()));
+            case "keep":
+                return typed.keep();
             case "create":
-                return model.create(words[1]);
+                return model.create(typed.a());
             case "makeDirectory":
-                return model.makeDirectory(words[1]);
+                return model.makeDirectory(typed.a());
             case "link":
-                return model.link(words[1], words[2]);
+                return model.link(typed.b(), typed.a());
             case "unlink":
-                return model.unlink(words[1]);
+                return model.unlink(typed.a());
             case "removeDirectory":
-                return model.removeDirectory(words[1]);
+                return model.removeDirectory(typed.a());
             case "rename":
-                return model.rename(words[1], words[2]);
+                return model.rename(typed.b(), typed.a());
             case "write":
-                return model.write(words[1], Integer.parseInt(words[2]), Integer.parseInt(words[3]),
-                        Long.parseLong(words[4]));
+                return model.write(typed.a(), number(words, 1), number(words, 2),
+                        Long.parseLong(words[3]));
             case "read":
-                return model.read(words[1], Integer.parseInt(words[2]));
+                return model.read(typed.a(), number(words, 1));
             case "truncate":
-                return model.truncate(words[1], Integer.parseInt(words[2]));
+                return model.truncate(typed.a(), number(words, 1));
             case "stat":
-                return model.stat(words[1], Integer.parseInt(words[2]));
+                return model.stat(typed.a(), number(words, 1));
             case "spoil":
-                return model.spoil(Integer.parseInt(words[1]), Integer.parseInt(words[2]),
-                        Integer.parseInt(words[3]));
+                return model.spoil(number(words, 1), number(words, 2), number(words, 3));
             case "check":
                 return model.check(words[1].equals("true"));
             case "count":
-                return model.count(Integer.parseInt(words[1]));
+                return model.count(number(words, 1));
             default:
                 throw new AssertionError(words[0]);
         }
+    }
+
+    private static int number(String[] words, int k) {
+        return Integer.parseInt(words[k]);
     }
 }

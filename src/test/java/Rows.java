@@ -1,7 +1,7 @@
 /** Rows that several tests begin with. */
 final class Rows {
     static final String STATE = "throws.IllegalStateException\n";
-    static final String NOWHERE = "throws.NoSuchElementException\n";
+    static final String ARGUMENT = "throws.IllegalArgumentException\n";
 
     private Rows() {
     }

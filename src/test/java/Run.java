@@ -5,7 +5,8 @@ import java.util.List;
 /**
  * Runs of calls on new objects, in rows "call -> the answer that is due". Behind every row the
  * whole disk is looked at: a call that throws or only looks must not have changed it, and while it
- * is clean it must be as the document's terms say.
+ * is clean it must be as the document's terms say. So are the paths: a call that takes them must
+ * have left them empty, whatever came of it, and any other must have left them alone.
  */
 final class Run {
     private static final List<String> LOOKS = List.of("type", "text", "keep", "read", "stat",
@@ -19,6 +20,7 @@ final class Run {
 
     static void due(String title, String told) {
         Played played = new Played();
+        Paths paths = new Paths();
         List<String> calls = new ArrayList<>();
         int[] before = Played.image(calls);
         for (String row : told.strip().split("\n")) {
@@ -27,6 +29,7 @@ final class Run {
             String answer = played.answer(call);
             same(title + ": " + call, answer, halves[1].strip());
             calls.add(call);
+            paths.note(call);
             int[] after = Played.image(calls);
             if (answer.startsWith("throws") || onlyLooks(call)) {
                 same(title + ": " + call + " left the disk alone", Arrays.equals(before, after),
@@ -35,6 +38,7 @@ final class Run {
             for (String fault : Terms.faults(after)) {
                 same(title + ": the disk after " + call, fault, "");
             }
+            paths(title + ": " + call, calls, paths);
             before = after;
         }
         same(title + ": at most 512 calls", played.calls() <= Played.CALLS_MAX, true);
@@ -42,6 +46,46 @@ final class Run {
 
     private static boolean onlyLooks(String call) {
         return call.equals("check false") || LOOKS.contains(call.split(" ")[0]);
+    }
+
+    /** Holds the paths behind some calls against the same paths typed anew. */
+    private static void paths(String title, List<String> calls, Paths due) {
+        same(title + ": the length of path A", last(calls, List.of("keep")),
+                "" + due.a().length());
+        List<String> typedA = new ArrayList<>(List.of("check true", "stat 0"));
+        typedA.addAll(typed(due.a()));
+        typedA.add("stat 0");
+        same(title + ": path A", last(calls, List.of("check true", "stat 0")),
+                last(calls, typedA));
+        List<String> typedB = new ArrayList<>(List.of("check true", "stat 0"));
+        typedB.addAll(typed(due.b()));
+        typedB.addAll(List.of("keep", "text /zzzzzzz", "rename"));
+        same(title + ": path B",
+                last(calls, List.of("check true", "stat 0", "text /zzzzzzz", "rename")),
+                last(calls, typedB));
+    }
+
+    private static List<String> typed(String path) {
+        List<String> calls = new ArrayList<>();
+        for (char c : path.toCharArray()) {
+            calls.add("type " + (int) c);
+        }
+        return calls;
+    }
+
+    /** What the last call answers when some more are made behind a run, on a new object. */
+    private static String last(List<String> calls, List<String> more) {
+        Played played = new Played();
+        for (String call : calls) {
+            played.answer(call);
+        }
+        String answer = "";
+        for (String call : more) {
+            answer = played.answer(call);
+        }
+        same("the looks behind " + calls + " make at most 512 calls",
+                played.calls() <= Played.CALLS_MAX, true);
+        return answer;
     }
 
     static void same(String what, Object got, Object want) {

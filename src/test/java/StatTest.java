@@ -18,6 +18,16 @@ final class StatTest {
                 stat /g 3 -> 1216
                 stat /g 4 -> 3
                 """);
+        Run.due("the indirect block is counted", """
+                create /f -> 2
+                stat /f 4 -> 0
+                write /f 160 1 1 -> 161
+                stat /f 4 -> 1
+                write /f 192 1 1 -> 193
+                stat /f 4 -> 3
+                write /f 224 1 1 -> 225
+                stat /f 4 -> 4
+                """);
         Run.due("directories", """
                 stat / 0 -> 1
                 stat / 1 -> 2
@@ -40,6 +50,7 @@ final class StatTest {
                 stat / 5 -> throws.IllegalArgumentException
                 stat / -1 -> throws.IllegalArgumentException
                 stat / 2147483647 -> throws.IllegalArgumentException
+                stat / -2147483648 -> throws.IllegalArgumentException
                 stat /x 5 -> throws.NoSuchElementException
                 stat 5 -> throws.NoSuchElementException
                 spoil 0 5 0 -> true
