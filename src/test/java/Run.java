@@ -4,9 +4,9 @@ import java.util.List;
 
 /**
  * Runs of calls on new objects, in rows "call -> the answer that is due". Behind every row the
- * whole disk is looked at: a call that throws or only looks must not have changed it, and while it
- * is clean it must be as the document's terms say. So are the paths: a call that takes them must
- * have left them empty, whatever came of it, and any other must have left them alone.
+ * whole disk is looked at: a call that throws or only looks must not have changed it, and it must
+ * be as the document's terms say. So are the paths: a call that takes them must have left them
+ * empty, whatever came of it, and any other must have left them alone.
  */
 final class Run {
     private static final List<String> LOOKS = List.of("type", "text", "keep", "read", "stat",

@@ -3,7 +3,7 @@ import java.util.List;
 import java.util.TreeMap;
 import java.util.TreeSet;
 
-/** What the document's terms say of a clean disk, looked at from its bytes alone. */
+/** What the document's terms say of a disk, looked at from its bytes alone. */
 final class Terms {
     private final int[] image;
     private final List<String> faults = new ArrayList<>();
@@ -14,14 +14,12 @@ final class Terms {
         this.image = image;
     }
 
-    /** What is not as it should be; nothing is asked of a disk that isn't clean but its mark. */
+    /** What is not as it should be; a disk that isn't clean may have wrong bits and links. */
     static List<String> faults(int[] image) {
         Terms terms = new Terms(image);
         terms.holds("byte 0 is 77", image[0] == 77);
         terms.holds("byte 11 is 0 or 1", image[11] == 0 || image[11] == 1);
-        if (image[11] == 1) {
-            terms.all();
-        }
+        terms.all(image[11] == 1);
         return terms.faults;
     }
 
@@ -31,7 +29,7 @@ final class Terms {
         }
     }
 
-    private void all() {
+    private void all(boolean isClean) {
         zeros("the rest of block 0", 12, 32);
         zeros("inode 0", 32, 48);
         for (int block = 0; block <= 8; block++) {
@@ -40,17 +38,18 @@ final class Terms {
         directory(1, 1);
         for (int i = 1; i < 16; i++) {
             boolean isTaken = links.containsKey(i);
-            holds("the map has inode " + i + ": " + isTaken, bit(1, i) == isTaken);
+            holds("the map has inode " + i + ": " + isTaken, !isClean || bit(1, i) == isTaken);
             if (isTaken) {
-                holds("links of " + i, image[at(i) + 1] == links.get(i));
+                holds("links of " + i, !isClean || image[at(i) + 1] == links.get(i));
             } else {
                 zeros("inode " + i, at(i), at(i) + 16);
             }
         }
         holds("the map has inode 0", bit(1, 0));
         for (int i = 0; i < 64; i++) {
+            boolean canBeWrong = !isClean && i >= 9;
             holds("the map has block " + i + ": " + blocks.contains(i),
-                    bit(3, i) == blocks.contains(i));
+                    canBeWrong || bit(3, i) == blocks.contains(i));
         }
     }
 
