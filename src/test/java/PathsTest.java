@@ -171,6 +171,15 @@ final class PathsTest {
                 unlink /abcdef -> 0
                 stat /abcdefg 0 -> 2
                 """);
+        Run.due("a way through nothing or through a file leads nowhere on a full disk too",
+                Rows.twoFiles(14) + """
+                stat /x/y 0 -> throws.NoSuchElementException
+                stat /a/y 0 -> throws.NoSuchElementException
+                unlink /x/y/z -> throws.NoSuchElementException
+                removeDirectory /a/y -> throws.NoSuchElementException
+                read /a/a 0 -> throws.NoSuchElementException
+                rename /a/b /b -> throws.NoSuchElementException
+                """);
         Run.due("a free slot leads nowhere, whatever its name was", """
                 makeDirectory /d -> 2
                 create /d/f -> 3
