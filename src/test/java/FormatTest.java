@@ -71,6 +71,17 @@ final class FormatTest {
                 format -> done
                 type 97 -> 3
                 create -> 2
+                create /b -> 3
+                text /c -> 2
+                link -> 2
+                """);
+        Run.due("format leaves a path B that leads to the root", """
+                text / -> 1
+                keep -> 1
+                spoil 0 2 0 -> true
+                format -> done
+                text /c -> 2
+                rename -> throws.UnsupportedOperationException
                 """);
     }
 

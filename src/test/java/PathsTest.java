@@ -14,6 +14,7 @@ final class PathsTest {
         leading();
         emptyThen();
         emptyWhenNotClean();
+        notTaken();
         Run.end();
     }
 
@@ -250,5 +251,23 @@ final class PathsTest {
                     + "check true -> 1\ntext /g -> 2\n" + call
                     + " -> throws.NoSuchElementException\n");
         }
+    }
+
+    private static void notTaken() {
+        for (String call : new String[] {"spoil 0 9 0 -> true", "spoil 1 9 0 -> true",
+            "spoil 2 2 7 -> true", "spoil 3 2 7 -> false", "spoil 0 16 0 -> false",
+            "spoil 2 9 1 -> false", "check false -> 0", "check true -> 0", "byteAt 0 -> 77",
+            "byteAt -1 -> -1", "count 0 -> 12", "count 1 -> 53", "count 2 -> 1", "count 3 -> -1"}) {
+            Run.due("both paths are as they were after " + call, "create /f -> 2\n"
+                    + "makeDirectory /d -> 3\ntext /f -> 2\nkeep -> 2\ntext /d/ -> 3\n" + call
+                    + "\ntype 103 -> 4\nkeep -> 4\n");
+            Run.due("both paths are of use after " + call, "create /f -> 2\n"
+                    + "makeDirectory /d -> 3\ntext /f -> 2\nkeep -> 2\ntext /d/g -> 4\n" + call
+                    + "\n" + mend(call) + "link -> 2\nstat /d/g 0 -> 2\n");
+        }
+    }
+
+    private static String mend(String call) {
+        return call.endsWith("true") ? "check true -> 1\n" : "";
     }
 }

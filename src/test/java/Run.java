@@ -63,6 +63,38 @@ final class Run {
         same(title + ": path B",
                 last(calls, List.of("check true", "stat 0", "text /zzzzzzz", "rename")),
                 last(calls, typedB));
+        onNewDisk(title + ": path A on a new disk", calls, "keep", due.a());
+        onNewDisk(title + ": path B on a new disk", calls, "stat 0", due.b());
+    }
+
+    /**
+     * Looks at a path on a disk that has just what it leads to, as on the run's own disk it may
+     * lead to nothing, and then couldn't be told from an empty one. The first call makes the path
+     * B, or makes A empty. Left out where what it leads to can't be made in 512 calls.
+     */
+    private static void onNewDisk(String title, List<String> calls, String first, String path) {
+        List<String> all = new ArrayList<>(calls);
+        all.addAll(List.of(first, "format"));
+        String answer = path.equals("/") ? "throws.UnsupportedOperationException"
+                : "throws.NoSuchElementException";
+        if (path.matches("(/[a-z]{1,7})+")) {
+            int inode = 1;
+            for (int end = path.indexOf('/', 1); end > 0; end = path.indexOf('/', end + 1)) {
+                all.add("makeDirectory " + path.substring(0, end));
+                inode++;
+            }
+            all.add("create " + path);
+            answer = "" + (inode + 1);
+        }
+        all.addAll(List.of("text /zzzzzzz", "rename"));
+        Played played = new Played();
+        String last = "";
+        for (String call : all) {
+            last = played.answer(call);
+        }
+        if (played.calls() <= Played.CALLS_MAX) {
+            same(title, last, answer);
+        }
     }
 
     private static List<String> typed(String path) {
